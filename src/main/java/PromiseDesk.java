@@ -189,6 +189,12 @@ public final class PromiseDesk {
         return store >= 0 && store <= LAST_STORE;
     }
 
+    private static int changedStore(int store, int variable, int number) {
+        int shift = BITS_OF_A_VARIABLE * variable;
+        // The low bits are the remainder 0 .. 15 for numbers below 0 too.
+        return (store & ~(LAST_VALUE << shift)) | ((number & LAST_VALUE) << shift);
+    }
+
     /** The nodes, and what expressions and conditions are in a store. */
     private static final class Nodes {
         final int[] kinds = new int[MOST_NODES];
@@ -229,7 +235,7 @@ public final class PromiseDesk {
                 case NUMBER:
                     return a;
                 case VARIABLE:
-                    return variableOf(store, a);
+                    return (store >> (BITS_OF_A_VARIABLE * a)) & LAST_VALUE;
                 case SUM:
                     return numberIn(a, store) + numberIn(b, store);
                 case DIFFERENCE:
@@ -258,14 +264,6 @@ public final class PromiseDesk {
             }
         }
 
-        /** The store behind a command of the kind BECOMES. */
-        int storeChangedBy(int command, int store) {
-            int shift = BITS_OF_A_VARIABLE * as[command];
-            // The low bits are the remainder 0 .. 15 for numbers below 0 too.
-            int value = numberIn(bs[command], store) & LAST_VALUE;
-            return (store & ~(LAST_VALUE << shift)) | (value << shift);
-        }
-
         private boolean fits(int role, int word) {
             switch (role) {
                 case NOT_LOOKED_AT:
@@ -292,10 +290,6 @@ public final class PromiseDesk {
                 return AN_EXPRESSION;
             }
             return kind < NOTHING ? A_CONDITION : A_COMMAND;
-        }
-
-        private static int variableOf(int store, int variable) {
-            return (store >> (BITS_OF_A_VARIABLE * variable)) & LAST_VALUE;
         }
     }
 
@@ -327,7 +321,7 @@ public final class PromiseDesk {
                 case NOTHING:
                     return true;
                 case BECOMES:
-                    current = nodes.storeChangedBy(command, current);
+                    current = changedStore(current, a, nodes.numberIn(b, current));
                     return true;
                 case THEN:
                     return ends(a) && ends(b);
@@ -484,7 +478,7 @@ public final class PromiseDesk {
                 case NOTHING:
                     return store;
                 case BECOMES:
-                    return nodes.storeChangedBy(command, store);
+                    return changedStore(store, a, nodes.numberIn(b, store));
                 case THEN:
                     int between = follow(a, store);
                     return between < 0 ? between : follow(b, between);

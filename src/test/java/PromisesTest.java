@@ -15,7 +15,7 @@ public final class PromisesTest {
         makeLimits();
         makeChangesNothingWhenRefused();
         values();
-        valuesWrap();
+        greatestValues();
         valueRefuses();
         conditions();
         holdsRefuses();
@@ -206,7 +206,8 @@ public final class PromisesTest {
         due("least store", () -> x.value(2, 0), 0);
     }
 
-    private static void valuesWrap() {
+    /** Six levels do not reach beyond an int, so this is as far from 0 as a value goes. */
+    private static void greatestValues() {
         PromiseDesk x = new PromiseDesk();
         int top = x.make(0, 100, 0, 0);
         int want = 100;
@@ -440,6 +441,10 @@ public final class PromisesTest {
         due("loops on both sides of an if", () -> x.promise(2, choice, 2), 7);
         dueState("17 duties again", () -> x.promise(2, eight, 2));
         due("the one before stays again", () -> x.count(1), 7);
+        int nestedTwice = x.make(13, nested, nested, 0);
+        int nestedOften = x.make(13, nestedTwice, nestedTwice, 0);
+        due("9 duties by loops in loops", () -> x.promise(2, nestedTwice, 2), 9);
+        dueState("17 duties by loops in loops", () -> x.promise(2, nestedOften, 2));
     }
 
     private static void promiseRefuses() {
@@ -487,6 +492,10 @@ public final class PromisesTest {
         due("if, true", () -> x.kept(0, store(7, 3, 0)), true);
         due("if, not true, and q holds", () -> x.kept(0, store(3, 7, 0)), true);
         due("if, not true, and q fails", () -> x.kept(0, store(7, 7, 0)), false);
+        int clear = x.make(12, 0, x.make(0, 0, 0, 0), 0);
+        int raise = x.make(12, 0, x.make(0, 1, 0, 0), 0);
+        x.promise(equal, x.make(13, clear, raise, 0), more);
+        due("the second command from store 0 too", () -> x.kept(0, 3), true);
     }
 
     private static void loopEndsWhatMustHold() {
@@ -510,6 +519,17 @@ public final class PromisesTest {
         due("the body leaves the invariant", () -> x.kept(1, 4), false);
         due("no invariant, no duty", () -> x.kept(1, 5), true);
         due("never invariant without the condition", () -> x.decide(2), PromiseDesk.VALID);
+        // What is to hold behind a loop is looked for behind the commands that follow it.
+        int always5 = x.make(15, below, always, up);
+        int is6 = x.make(6, v0, x.make(0, 6, 0, 0), 0);
+        int is7 = x.make(6, v0, x.make(0, 7, 0, 0), 0);
+        x.promise(always, x.make(13, x.make(13, always5, up, 0), up, 0), is7);
+        due("behind both commands that follow", () -> x.kept(2, 5), true);
+        due("not behind one of them", () -> x.kept(2, 6), false);
+        due("not in the store itself", () -> x.kept(2, 7), false);
+        int setTo6 = x.make(12, 0, x.make(0, 6, 0, 0), 0);
+        x.promise(always, x.make(13, x.make(13, always5, up, 0), setTo6, 0), is6);
+        due("the nearest command goes first", () -> x.decide(2), PromiseDesk.VALID);
     }
 
     /** Promise 8. */
