@@ -423,6 +423,10 @@ public final class PromisesTest {
         due("duty 3: the inner body", () -> x.decide(3), PromiseDesk.VALID);
         due("duty 4: the inner end, so the outer invariant behind", () -> x.decide(4), 2);
         due("duty 4, how often", () -> x.broken(4, 0, 4095), 256);
+        // Clearing gives q, but the body is for the outer invariant, not for q.
+        due("a loop in a loop, another q", () -> x.promise(isZero, outer, isZero), 5);
+        due("duty 2: the outer end, so q", () -> x.decide(2), 1);
+        due("duty 4: the outer invariant, not q", () -> x.decide(4), 2);
     }
 
     private static void promiseLimit() {
