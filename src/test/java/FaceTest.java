@@ -29,6 +29,14 @@ public final class FaceTest {
             "public int PromiseDesk.count(int) throws java.lang.IllegalArgumentException");
 
     public static void main(String[] args) {
+        boolean fine = faceIsTheDocuments() & classesInsideAreHidden() & privateNamesAreOthers();
+        if (!fine) {
+            System.exit(1);
+        }
+        System.out.println("the face is the document's");
+    }
+
+    private static boolean faceIsTheDocuments() {
         Set<String> found = new TreeSet<>();
         for (Field field : PromiseDesk.class.getDeclaredFields()) {
             addUnlessPrivate(found, field, field.toGenericString());
@@ -44,9 +52,39 @@ public final class FaceTest {
         if (!closed || !found.equals(FACE)) {
             System.out.println("the face is " + new TreeSet<>(found));
             System.out.println("due is " + new TreeSet<>(FACE));
-            System.exit(1);
+            return false;
         }
-        System.out.println("the face is the document's");
+        return true;
+    }
+
+    private static boolean classesInsideAreHidden() {
+        boolean fine = true;
+        for (Class<?> inside : PromiseDesk.class.getDeclaredClasses()) {
+            int is = inside.getModifiers();
+            if (!Modifier.isStatic(is) || Modifier.isPublic(is) || Modifier.isProtected(is)) {
+                System.out.println(inside + " is not static, or can be seen");
+                fine = false;
+            }
+        }
+        return fine;
+    }
+
+    private static boolean privateNamesAreOthers() {
+        Set<String> open = new TreeSet<>();
+        Set<String> hidden = new TreeSet<>();
+        for (Method method : PromiseDesk.class.getDeclaredMethods()) {
+            (Modifier.isPrivate(method.getModifiers()) ? hidden : open).add(method.getName());
+        }
+        for (Class<?> inside : PromiseDesk.class.getDeclaredClasses()) {
+            for (Method method : inside.getDeclaredMethods()) {
+                hidden.add(method.getName());
+            }
+        }
+        hidden.retainAll(open);
+        if (!hidden.isEmpty()) {
+            System.out.println("methods inside bear names of the face: " + hidden);
+        }
+        return hidden.isEmpty();
     }
 
     private static void addUnlessPrivate(Set<String> found, Member member, String text) {
